@@ -55,7 +55,6 @@ public final class IntraMill {
         reader = new PlanReader(store);
         latest = new Plan();
         trial = new Plan();
-        picture.clear(1, 1);
         latest.clear(1, 1);
     }
 
@@ -423,9 +422,7 @@ public final class IntraMill {
             if (z < -1) {
                 return three(way * (1 - y));
             }
-            if (z == -1) {
-                return three(0);
-            }
+            // For z = -1 n is 0, so that three() is the one round the corner which the document names.
             return z % 2 == 0 ? two(way * n, way * (n + 1)) : three(way * n);
         }
 
@@ -448,7 +445,7 @@ public final class IntraMill {
 
     /** The whole transforms of one block, both ways. */
     private static final class Transform {
-        /** The block, row by row: pixels, or less what is foretold, before forth() and behind back(). */
+        /** The block, row by row: before forth() and behind back() what its pixels have beyond the foretold. */
         private final int[] cells = new int[CELLS];
 
         void back(int[] levels, int from, int qp) {
@@ -525,6 +522,8 @@ public final class IntraMill {
         private final Picture picture;
         private final Foretelling foretelling;
         private final Transform transform;
+        /** What is foretold for the block, row by row. */
+        private final int[] told = new int[CELLS];
 
         BlockMill(Picture picture, Foretelling foretelling) {
             this.picture = picture;
@@ -537,8 +536,9 @@ public final class IntraMill {
             int top = picture.topOf(block);
             foretelling.lookAround(block);
             int mode = bestMode(left, top);
+            foretell(mode);
             for (int i = 0; i < CELLS; i++) {
-                transform.cells[i] = lessForetold(mode, left, top, i);
+                transform.cells[i] = lessTold(left, top, i);
             }
             plan.modes[block] = mode;
             transform.forth(plan.levels, CELLS * block, plan.qp);
@@ -547,6 +547,7 @@ public final class IntraMill {
 
         void unpackBlock(Plan plan, int block) {
             foretelling.lookAround(block);
+            foretell(plan.modes[block]);
             comeBack(plan, block);
         }
 
@@ -555,7 +556,8 @@ public final class IntraMill {
             int least = Integer.MAX_VALUE;
             for (int mode = 0; mode < MODES; mode++) {
                 if (foretelling.mayUse(mode)) {
-                    int sum = sumOfSizes(mode, left, top);
+                    foretell(mode);
+                    int sum = sumOfSizes(left, top);
                     if (sum < least) {
                         least = sum;
                         best = mode;
@@ -565,18 +567,22 @@ public final class IntraMill {
             return best;
         }
 
-        private int sumOfSizes(int mode, int left, int top) {
+        private void foretell(int mode) {
+            for (int i = 0; i < CELLS; i++) {
+                told[i] = foretelling.guess(mode, i % SIDE, i / SIDE);
+            }
+        }
+
+        private int sumOfSizes(int left, int top) {
             int sum = 0;
             for (int i = 0; i < CELLS; i++) {
-                sum += Math.abs(lessForetold(mode, left, top, i));
+                sum += Math.abs(lessTold(left, top, i));
             }
             return sum;
         }
 
-        private int lessForetold(int mode, int left, int top, int i) {
-            int x = i % SIDE;
-            int y = i / SIDE;
-            return picture.get(left + x, top + y) - foretelling.guess(mode, x, y);
+        private int lessTold(int left, int top, int i) {
+            return picture.get(left + i % SIDE, top + i / SIDE) - told[i];
         }
 
         private void comeBack(Plan plan, int block) {
@@ -584,10 +590,8 @@ public final class IntraMill {
             int top = picture.topOf(block);
             transform.back(plan.levels, CELLS * block, plan.qp);
             for (int i = 0; i < CELLS; i++) {
-                int x = i % SIDE;
-                int y = i / SIDE;
-                int value = foretelling.guess(plan.modes[block], x, y) + transform.cells[i];
-                picture.set(left + x, top + y, bring(value, 0, 255));
+                int value = bring(told[i] + transform.cells[i], 0, 255);
+                picture.set(left + i % SIDE, top + i / SIDE, value);
             }
         }
     }
@@ -656,7 +660,9 @@ public final class IntraMill {
         private void writeLevels(int[] levels, int from) {
             int count = 0;
             for (int i = 0; i < CELLS; i++) {
-                count += levels[from + i] != 0 ? 1 : 0;
+                if (levels[from + i] != 0) {
+                    count++;
+                }
             }
             writeNumber(count);
             int zeros = 0;
@@ -674,9 +680,12 @@ public final class IntraMill {
 
         /** U: as many zeros as the number and 1 has binary digits behind its first, then all of these. */
         private void writeNumber(int number) {
-            int digits = 32 - Integer.numberOfLeadingZeros(number + 1);
-            writeBits(0, digits - 1);
-            writeBits(number + 1, digits);
+            int zeros = 0;
+            while (zeros < LONGEST && (number + 1) >> (zeros + 1) != 0) {
+                zeros++;
+            }
+            writeBits(0, zeros);
+            writeBits(number + 1, zeros + 1);
         }
 
         private void writeBits(int value, int n) {

@@ -157,7 +157,8 @@ final class Model {
     private static int[][] lines(int[][] m, boolean back) {
         int[][] rows = new int[4][];
         for (int y = 0; y < 4; y++) {
-            rows[y] = back ? backLine(m[y][0], m[y][1], m[y][2], m[y][3]) : forthLine(m[y][0], m[y][1], m[y][2], m[y][3]);
+            int[] row = m[y];
+            rows[y] = back ? backLine(row[0], row[1], row[2], row[3]) : forthLine(row[0], row[1], row[2], row[3]);
         }
         return rows;
     }

@@ -98,7 +98,8 @@ public final class ModelTest {
             for (int block = 0; block < model.across; block++) {
                 int four = 0;
                 for (int x = 4 * block; x < 4 * block + 4; x++) {
-                    model.pixels[y][x] = Math.max(0, Math.min(255, shade(kind, x, y, a, b) + c + CHANCE.nextInt(rough)));
+                    int grey = shade(kind, x, y, a, b) + c + CHANCE.nextInt(rough);
+                    model.pixels[y][x] = Math.max(0, Math.min(255, grey));
                     if (kind == 0) {
                         model.pixels[y][x] = CHANCE.nextInt(256);
                     } else if (kind == 1) {
