@@ -13,6 +13,7 @@ public final class IntraMill {
     private static final int MEAN = 2;
     private static final int CELLS = 16;
     private static final int MOST_BYTES = 8000;
+    private static final int BYTES_FED = 4;
     private static final int MOST_SIZE = 2048;
     private static final int LONGEST = 15;
 
@@ -120,10 +121,10 @@ public final class IntraMill {
     }
 
     public int feed(int four) throws IllegalStateException {
-        if (store.count + SIDE > MOST_BYTES) {
+        if (store.count + BYTES_FED > MOST_BYTES) {
             throw new IllegalStateException();
         }
-        for (int k = 0; k < SIDE; k++) {
+        for (int k = 0; k < BYTES_FED; k++) {
             store.add(byteOf(four, k));
         }
         return store.count;
@@ -203,6 +204,7 @@ public final class IntraMill {
         }
     }
 
+    /** Byte k, from the highest. */
     private static int byteOf(int four, int k) {
         return (four >>> (24 - 8 * k)) & 255;
     }
