@@ -1,3 +1,5 @@
+import java.util.function.Supplier;
+
 /** Bits written by hand, as a text of 0 and 1. */
 final class BitText {
     private final StringBuilder text = new StringBuilder();
@@ -21,25 +23,72 @@ final class BitText {
         return u(number > 0 ? 2 * number - 1 : -2 * number);
     }
 
-    /** A block of the likely mode without coefficients. */
-    BitText plain() {
-        return raw("1").u(0);
+    /** A mode that is not the likely one. */
+    BitText mode(int mode, int likely) {
+        return raw("0").raw(Integer.toBinaryString(8 + (mode > likely ? mode - 1 : mode)).substring(1));
+    }
+
+    /** Blocks of the likely mode without coefficients. */
+    BitText plain(int blocks) {
+        return raw("11".repeat(blocks));
+    }
+
+    /** The coefficients of a block, as many of them as are told; those behind are 0. */
+    BitText levels(int... levels) {
+        int count = 0;
+        for (int level : levels) {
+            count += level == 0 ? 0 : 1;
+        }
+        u(count);
+        int zeros = 0;
+        for (int level : levels) {
+            if (level == 0) {
+                zeros++;
+            } else {
+                u(zeros).s(level);
+                zeros = 0;
+            }
+        }
+        return this;
+    }
+
+    /** A block of the likely mode with one coefficient. */
+    BitText one(int i, int level) {
+        return raw("1").u(1).u(i).s(level);
     }
 
     int length() {
         return text.length();
     }
 
+    /** With zeros up to the last byte's end. */
     String filled() {
         return text + "0".repeat((8 - text.length() % 8) % 8);
     }
 
-    /** The object's bits become these, with zeros up to the last byte's end. */
-    void into(IntraMill mill) {
-        load(mill, filled());
+    Supplier<IntraMill> fed() {
+        return fed(filled());
     }
 
-    /** The object's bits become these; there are whole bytes of them. */
+    /** Fed and unpacked. */
+    Supplier<IntraMill> unpacked() {
+        return () -> {
+            IntraMill mill = fed().get();
+            mill.unpack();
+            return mill;
+        };
+    }
+
+    /** A new object that has these bits; they are whole bytes. */
+    static Supplier<IntraMill> fed(String bits) {
+        return () -> {
+            IntraMill mill = new IntraMill();
+            load(mill, bits);
+            return mill;
+        };
+    }
+
+    /** An object's bits become these; they are whole bytes. */
     static void load(IntraMill mill, String bits) {
         int bytes = bits.length() / 8;
         String wide = bits + "0".repeat(32);
@@ -48,13 +97,5 @@ final class BitText {
             mill.feed((int) Long.parseLong(wide.substring(8 * i, 8 * i + 32), 2));
         }
         mill.end(bytes);
-    }
-
-    static String of(IntraMill mill) {
-        StringBuilder bits = new StringBuilder();
-        for (int i = 0; i < mill.about(4); i++) {
-            bits.append(Integer.toBinaryString(256 + mill.bits(i)).substring(1));
-        }
-        return bits.toString();
     }
 }

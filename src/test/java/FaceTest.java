@@ -1,10 +1,12 @@
+import java.lang.reflect.Constructor;
 import java.lang.reflect.Member;
+import java.lang.reflect.Method;
 import java.lang.reflect.Modifier;
 import java.util.ArrayList;
 import java.util.Arrays;
 import java.util.List;
 
-/** The public face is the document's, and nothing else can be seen from outside. */
+@Part(name = "The public face", from = "## The public face ```java", to = "## Terms")
 public final class FaceTest {
     private static final String[] FACE = {
         "NONE", "about(int)", "alter(int,int)", "begin(int,int)", "bits(int)", "block(int,int)", "end(int)",
@@ -13,21 +15,51 @@ public final class FaceTest {
     };
 
     public static void main(String[] args) {
+        Check.run(FaceTest.class);
+    }
+
+    @Says("public final class IntraMill {")
+    static void theClassIsPublicAndFinal() {
+        Check.same("public", Modifier.isPublic(IntraMill.class.getModifiers()));
+        Check.same("final", Modifier.isFinal(IntraMill.class.getModifiers()));
+    }
+
+    @Says("public static final int NONE = -1;")
+    static void noneIsBelowZero() {
         Check.same("NONE", IntraMill.NONE, -1);
-        Check.same("the class is final", Modifier.isFinal(IntraMill.class.getModifiers()) ? 1 : 0, 1);
-        Check.same("public constructors", IntraMill.class.getConstructors().length, 1);
-        Check.same("all constructors", IntraMill.class.getDeclaredConstructors().length, 1);
+    }
+
+    @Says("public IntraMill();")
+    static void thereIsOneConstructor() {
+        Constructor<?>[] all = IntraMill.class.getDeclaredConstructors();
+        Check.same("constructors", all.length, 1);
+        Check.same("public", Modifier.isPublic(all[0].getModifiers()));
+        Check.same("parameters", all[0].getParameterCount(), 0);
+    }
+
+    @Says("public void begin(int across, int down) throws IllegalArgumentException; "
+            + "public void put(int block, int y, int four) throws IllegalArgumentException; "
+            + "public int pixel(int x, int y); "
+            + "public int pack(int qp, boolean smooth) throws IllegalArgumentException; "
+            + "public int unpack(); public int place(); "
+            + "public int feed(int four) throws IllegalStateException; "
+            + "public void end(int n) throws IllegalArgumentException; "
+            + "public int alter(int i, int b) throws IllegalArgumentException; "
+            + "public int bits(int i); "
+            + "public int block(int block, int what) throws IllegalArgumentException; "
+            + "public int foretold(int block, int mode, int x, int y) throws IllegalArgumentException; "
+            + "public int about(int what) throws IllegalArgumentException; }")
+    static void thereIsThisAndNoMore() {
         List<String> seen = new ArrayList<>();
         for (var field : IntraMill.class.getDeclaredFields()) {
             addIfSeen(seen, field, field.getName());
         }
-        for (var method : IntraMill.class.getDeclaredMethods()) {
+        for (Method method : IntraMill.class.getDeclaredMethods()) {
             String types = Arrays.toString(method.getParameterTypes()).replaceAll("[\\[\\] ]", "");
             addIfSeen(seen, method, method.getName() + "(" + types + ")");
         }
         seen.sort(null);
         Check.same("the face", seen.toString(), Arrays.toString(FACE));
-        Check.done();
     }
 
     private static void addIfSeen(List<String> seen, Member member, String name) {

@@ -1,44 +1,111 @@
-/** All that an object shows by the calls that change nothing, as a text. */
+import java.util.function.Function;
+import java.util.function.Supplier;
+
+/**
+ * All that an object shows by the calls that change nothing, as a text. Nothing is promised behind an object's 512th
+ * call, so an object that shows much is made again, by its recipe, before that.
+ */
 final class Sight {
-    private Sight() {
+    /** With this many, a recipe may make some 300 calls of its own. */
+    private static final int MOST_READS = 200;
+
+    private final Supplier<IntraMill> recipe;
+    private final StringBuilder text = new StringBuilder();
+    private IntraMill mill;
+    private int reads;
+
+    private Sight(Supplier<IntraMill> recipe) {
+        this.recipe = recipe;
     }
 
-    static String of(IntraMill mill) {
-        StringBuilder text = new StringBuilder();
+    static String of(Supplier<IntraMill> recipe) {
+        Sight sight = new Sight(recipe);
+        sight.addAbout();
+        sight.addPixels();
+        sight.addBlocks();
+        sight.addBytes();
+        return sight.text.toString();
+    }
+
+    static String pixels(Supplier<IntraMill> recipe) {
+        Sight sight = new Sight(recipe);
+        sight.addPixels();
+        return sight.text.toString();
+    }
+
+    static String blocks(Supplier<IntraMill> recipe) {
+        Sight sight = new Sight(recipe);
+        sight.addBlocks();
+        return sight.text.toString();
+    }
+
+    static String bytes(Supplier<IntraMill> recipe) {
+        Sight sight = new Sight(recipe);
+        sight.addBytes();
+        return sight.text.toString();
+    }
+
+    /** Each byte as eight characters 0 and 1. */
+    static String bits(Supplier<IntraMill> recipe) {
+        StringBuilder bits = new StringBuilder();
+        for (String value : bytes(recipe).split(" ")) {
+            if (!value.isEmpty()) {
+                bits.append(Integer.toBinaryString(256 + Integer.parseInt(value)).substring(1));
+            }
+        }
+        return bits.toString();
+    }
+
+    private int read(Function<IntraMill, Integer> call) {
+        if (mill == null || reads == MOST_READS) {
+            mill = recipe.get();
+            reads = 0;
+        }
+        reads++;
+        return call.apply(mill);
+    }
+
+    private int pixel(int x, int y) {
+        return read(mill -> mill.pixel(x, y));
+    }
+
+    private int about(int what) {
+        return read(mill -> mill.about(what));
+    }
+
+    private void addAbout() {
         for (int what = 0; what < 5; what++) {
-            text.append(mill.about(what)).append(' ');
+            text.append(about(what)).append(' ');
         }
-        text.append("place ").append(mill.place()).append('\n');
-        return text.append(pixels(mill)).append(blocks(mill)).append(bytes(mill)).toString();
+        text.append("place ").append(read(IntraMill::place)).append('\n');
     }
 
-    static String pixels(IntraMill mill) {
-        StringBuilder text = new StringBuilder();
-        for (int y = 0; mill.pixel(0, y) != IntraMill.NONE; y++) {
-            for (int x = 0; mill.pixel(x, y) != IntraMill.NONE; x++) {
-                text.append(mill.pixel(x, y)).append(' ');
+    private void addPixels() {
+        for (int y = 0; pixel(0, y) != IntraMill.NONE; y++) {
+            for (int x = 0, value = pixel(x, y); value != IntraMill.NONE; x++, value = pixel(x, y)) {
+                text.append(value).append(' ');
             }
             text.append('\n');
         }
-        return text.toString();
     }
 
-    static String blocks(IntraMill mill) {
-        StringBuilder text = new StringBuilder();
-        for (int block = 0; block < mill.about(0) * mill.about(1); block++) {
-            for (int what = IntraMill.NONE; what < 16; what++) {
-                text.append(mill.block(block, what)).append(' ');
+    private void addBlocks() {
+        int blocks = about(0) * about(1);
+        for (int i = 0; i < blocks; i++) {
+            int block = i;
+            for (int k = IntraMill.NONE; k < 16; k++) {
+                int what = k;
+                text.append(read(mill -> mill.block(block, what))).append(' ');
             }
             text.append('\n');
         }
-        return text.toString();
     }
 
-    static String bytes(IntraMill mill) {
-        StringBuilder text = new StringBuilder();
-        for (int i = 0; mill.bits(i) != IntraMill.NONE; i++) {
-            text.append(mill.bits(i)).append(' ');
+    private void addBytes() {
+        int bytes = about(4);
+        for (int k = 0; k < bytes; k++) {
+            int i = k;
+            text.append(read(mill -> mill.bits(i))).append(' ');
         }
-        return text.toString();
     }
 }
