@@ -20,6 +20,7 @@ public final class CallsTest {
         Check.same("pack(20, false)", behind511Calls().pack(20, false), 2);
         Check.same("pixel(3, 3)", behind511Calls().pixel(3, 3), 128);
         Check.same("foretold(0, 2, 3, 3)", behind511Calls().foretold(0, 2, 3, 3), 128);
-        Check.refused("begin(9, 1)", CallsTest::behind511Calls, mill -> mill.begin(9, 1));
+        Check.same("begin(9, 1)", Check.thrown(behind511Calls(), mill -> mill.begin(9, 1)),
+                IllegalArgumentException.class.getName());
     }
 }

@@ -9,11 +9,13 @@ import java.util.function.Supplier;
 
 /** Runs a class of tests and counts the answers that are not as due. */
 final class Check {
-    private static final int MOST_SHOWN = 50;
+    /** Of each test: so that one that fails often does not hide the others. */
+    private static final int MOST_SHOWN = 3;
 
     private static String test = "";
     private static int asked = 0;
     private static int wrong = 0;
+    private static int shown = 0;
 
     private Check() {
     }
@@ -27,7 +29,7 @@ final class Check {
         for (Method method : methods) {
             Says says = method.getAnnotation(Says.class);
             if (says != null) {
-                test = tests.getSimpleName() + "." + method.getName() + " \"" + says.value() + "\"";
+                name(tests.getSimpleName() + "." + method.getName() + " \"" + says.value() + "\"");
                 runOne(method);
                 quotes.add(says.value());
                 count++;
@@ -38,6 +40,11 @@ final class Check {
         if (wrong != 0 || asked == 0) {
             System.exit(1);
         }
+    }
+
+    private static void name(String newTest) {
+        test = newTest;
+        shown = 0;
     }
 
     private static void runOne(Method method) {
@@ -57,7 +64,7 @@ final class Check {
         if (part == null || !Doc.isThere()) {
             return;
         }
-        test = part.name();
+        name(part.name());
         String text = Doc.textOf(part);
         for (String words : quotes) {
             same("how often the document has \"" + words + "\"", Doc.count(text, words), 1);
@@ -82,7 +89,8 @@ final class Check {
         asked++;
         if (!got.equals(due)) {
             wrong++;
-            if (wrong <= MOST_SHOWN) {
+            shown++;
+            if (shown <= MOST_SHOWN) {
                 System.out.println(test + ": " + what + " is\n" + got + "\ndue is\n" + due);
             }
         }
@@ -105,7 +113,8 @@ final class Check {
         return mill;
     }
 
-    private static String thrown(IntraMill mill, Consumer<IntraMill> call) {
+    /** The name of the exception that a call throws. */
+    static String thrown(IntraMill mill, Consumer<IntraMill> call) {
         try {
             call.accept(mill);
         } catch (RuntimeException e) {

@@ -121,6 +121,15 @@ public final class Promise02BeginTest {
         Check.refused("begin(-2, -2)", Made::used, mill -> mill.begin(-2, -2));
     }
 
+    /** Their lowest bits are good numbers. */
+    @Says("IllegalArgumentException: one is not 1 .. 8.")
+    static void numbersThatWouldWrapRound() {
+        Check.refused("begin(17, 1)", Made::used, mill -> mill.begin(17, 1));
+        Check.refused("begin(1, 264)", Made::used, mill -> mill.begin(1, 264));
+        Check.refused("begin(-248, 8)", Made::used, mill -> mill.begin(-248, 8));
+        Check.refused("begin(2, 65537)", Made::used, mill -> mill.begin(2, 65537));
+    }
+
     @Says("IllegalArgumentException: one is not 1 .. 8.")
     static void theFarthestNumbers() {
         Check.refused("begin(MIN, 1)", Made::used, mill -> mill.begin(Integer.MIN_VALUE, 1));

@@ -94,6 +94,44 @@ public final class Promise05PackTest {
         }
     }
 
+    /**
+     * Each block has the lines, or the columns, of one before it, so that pixels that are not there, taken to be those
+     * looked at before, would foretell it best; it is packed twice, so that there are such for the first block too.
+     */
+    @Says("The picture is packed: each block by the mode that it may have")
+    static void pixelsLookedAtBeforeAreNotThere() {
+        IntraMill lines = Made.begun(2, 2).get();
+        IntraMill columns = Made.begun(2, 2).get();
+        for (int round = 0; round < 2; round++) {
+            for (int y = 0; y < 8; y++) {
+                for (int block = 0; block < 2; block++) {
+                    lines.put(block, y, 0x01010101 * (10 + y % 4 * 70));
+                    columns.put(block, y, 0x0a5096dc);
+                }
+            }
+            lines.pack(0, false);
+            columns.pack(0, false);
+            mayHave("lines", modes(lines));
+            mayHave("columns", modes(columns));
+        }
+    }
+
+    private static void mayHave(String name, String modes) {
+        Check.same(name + ", the first block: 2", modes.charAt(0) == '2');
+        Check.same(name + ", in the first row: one of 1 2 8", "128".indexOf(modes.charAt(1)) >= 0);
+        Check.same(name + ", in the first column: one of 0 2 3 7", "0237".indexOf(modes.charAt(2)) >= 0);
+    }
+
+    /** All 128, all 0, all 255: what one might take for pixels that are not there. */
+    @Says("The picture is packed: each block by the mode that it may have")
+    static void noGreyIsTakenForPixelsThatAreNotThere() {
+        for (int grey : new int[] {0, 128, 255}) {
+            int other = 60;
+            mayHave("grey " + grey, modes(packed(Made.flat(2, 2, other, grey, grey, other), 0, false)));
+            mayHave("grey " + grey, modes(packed(Made.flat(2, 2, grey, other, other, grey), 0, false)));
+        }
+    }
+
     @Says("with the least sum of the sizes of its pixels less what is foretold")
     static void eachModeIsTakenWhereItForetellsAll() {
         for (int mode = 0; mode < 9; mode++) {

@@ -8,6 +8,8 @@ import java.util.function.Supplier;
 final class Sight {
     /** With this many, a recipe may make some 300 calls of its own. */
     private static final int MOST_READS = 200;
+    /** A picture that does not end is looked at no farther. */
+    private static final int FARTHEST = 40;
 
     private final Supplier<IntraMill> recipe;
     private final StringBuilder text = new StringBuilder();
@@ -81,9 +83,9 @@ final class Sight {
     }
 
     private void addPixels() {
-        for (int y = 0; pixel(0, y) != IntraMill.NONE; y++) {
-            for (int x = 0, value = pixel(x, y); value != IntraMill.NONE; x++, value = pixel(x, y)) {
-                text.append(value).append(' ');
+        for (int y = 0; y < FARTHEST && pixel(0, y) != IntraMill.NONE; y++) {
+            for (int x = 0; x < FARTHEST && pixel(x, y) != IntraMill.NONE; x++) {
+                text.append(pixel(x, y)).append(' ');
             }
             text.append('\n');
         }

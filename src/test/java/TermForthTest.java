@@ -130,9 +130,48 @@ public final class TermForthTest {
         Check.same("-4 at QP 0: 63350", spot(0, 0, -4, 0).block(0, 0), -1);
     }
 
+    /** Each size from a great one down, so that a factor that is 1 more or less is seen. */
+    private static void compareSizes(int i, int greatest, int[] fours) {
+        for (int qp = 0; qp < 6; qp++) {
+            for (int less = 0; less < 256; less++) {
+                IntraMill mill = new IntraMill();
+                for (int y = 0; y < 4; y++) {
+                    mill.put(0, y, y == 1 ? fours[y] - (less << 16) : fours[y]);
+                }
+                mill.pack(qp, false);
+                Check.same("QP " + qp + " size " + (greatest - less), mill.block(0, i),
+                        level(greatest - less, factor(i, qp), qp));
+            }
+        }
+    }
+
     @Says("W both even 13107 11916 10082 9362 8192 7282,")
     static void bothEven() {
         compareAll(0, 3, 5, 11);
+    }
+
+    /** A black block beside a white one has the greatest sizes: each pixel is as far as can be from the foretold. */
+    @Says("W both even 13107 11916 10082 9362 8192 7282,")
+    static void bothEvenToTheLastOne() {
+        for (int qp = 0; qp < 6; qp++) {
+            for (int more = 0; more < 256; more++) {
+                IntraMill mill = Made.flat(2, 1, 255, 0);
+                mill.put(1, 0, more << 24);
+                mill.pack(qp, false);
+                int size = 16 * mill.pixel(3, 0) - more;
+                Check.same("QP " + qp + " size " + size, mill.block(1, 0), level(-size, factor(0, qp), qp));
+            }
+        }
+    }
+
+    @Says("both odd 5243 4660 4194 3647 3355 2893,")
+    static void bothOddToTheLastOne() {
+        compareSizes(4, 18 * 255, new int[] {0xffff0000, 0xffff0000, 0x0000ffff, 0x0000ffff});
+    }
+
+    @Says("otherwise 8066 7490 6554 5825 5243 4559;")
+    static void oneOfThemOddToTheLastOne() {
+        compareSizes(1, 12 * 255, new int[] {0xffff0000, 0xffff0000, 0xffff0000, 0xffff0000});
     }
 
     @Says("both odd 5243 4660 4194 3647 3355 2893,")

@@ -61,10 +61,14 @@ public final class TermSmoothingTest {
                 "128 128 128 124 120 116 116 120 125 129 129 129 \n".repeat(4));
     }
 
+    /** 72 is 56 below 128: near enough to the 0 of a pixel that is not there for QP 51. */
     @Says("first at all upright edges between blocks, from left to right, line by line from above;")
     static void notAtThePicturesOwnEdges() {
-        Check.same("one block", Sight.pixels(BitText.head(1, 1, 51, 1).raw("1").levels(-1, 1, 1).unpacked()),
-                Sight.pixels(BitText.head(1, 1, 51, 0).raw("1").levels(-1, 1, 1).unpacked()));
+        Check.same("one block", Sight.pixels(BitText.head(1, 1, 51, 1).one(0, -1).unpacked()), Made.grey(1, 1, 72));
+        Check.same("four", Sight.pixels(BitText.head(2, 2, 51, 1).one(0, -1).plain(3).unpacked()),
+                Made.grey(2, 2, 72));
+        Check.same("64", Sight.pixels(BitText.head(8, 8, 51, 1).one(0, -1).plain(63).unpacked()),
+                Made.grey(8, 8, 72));
     }
 
     @Says("first at all upright edges between blocks, from left to right, line by line from above;")
@@ -115,12 +119,20 @@ public final class TermSmoothingTest {
         leaves(13, "116 117 124 122 ", -20, -3, 6, 3);
     }
 
+    /** 16 / 24 is 0, cut off. */
     @Says("if the sizes of p - q, p - o, r - q are below QP QP / 24,")
     static void noStepIsSmallEnoughBelowQpFive() {
-        for (int qp = 0; qp < 5; qp++) {
-            Check.same("QP " + qp, edge(qp, 1, true, 0, 0, 3, -3), edge(qp, 0, true, 0, 0, 3, -3));
-            Check.same("QP " + qp, edge(qp, 1, false, 0, 0, 3, -3), edge(qp, 0, false, 0, 0, 3, -3));
-        }
+        leaves(0, "128 128 130 130 ", 0, 0, 12, 0);
+        leaves(4, "128 128 131 131 ", 0, 0, 12, 0);
+        leaves(4, "128 128 129 129 ", 0, 0, 4, 0);
+    }
+
+    /** 36 / 24 is 1 and 49 / 24 is 2: a step of 1 is smoothed from QP 7 on. */
+    @Says("if the sizes of p - q, p - o, r - q are below QP QP / 24,")
+    static void aStepOfOneAtTheLeastQp() {
+        leaves(5, "127 128 127 128 ", -9, -8, 0, -2);
+        leaves(6, "127 128 127 128 ", -9, -8, 0, -2);
+        smooths(7, "127 128 127 128 ", "127 127 128 128 ", -9, -8, 0, -2);
     }
 
     /** At QP 51 108 is the bound, and t is 7. */
