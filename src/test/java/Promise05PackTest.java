@@ -142,8 +142,8 @@ public final class Promise05PackTest {
     }
 
     /**
-     * The block is the left one's last column, L, drawn through, but for four pixels 20 nearer to the mean or beyond:
-     * mode 1 leaves sizes of 80 (squares of 1600), the mean sizes of 144 (squares of 1344).
+     * The block is the left one's last column drawn through, but for its first line, which is 20 darker: mode 1 leaves
+     * sizes of 80 (squares of 1600), the mean, 128, sizes of 144 (squares of 1344).
      */
     @Says("with the least sum of the sizes of its pixels less what is foretold")
     static void theSizesAreAddedNotTheirSquares() {

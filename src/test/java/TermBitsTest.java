@@ -1,4 +1,4 @@
-@Part(name = "Terms: THE BITS", from = "p becomes p + d, q q - d, brought to 0 .. 255.", to = "FAULTS, the first")
+@Part(name = "Terms: THE BITS", from = "q q - d, brought to 0 .. 255.", to = "FAULTS, the first")
 public final class TermBitsTest {
     /** U of 0 to 8. */
     private static final String[] U = {

@@ -1,4 +1,4 @@
-@Part(name = "Terms: FAULTS", from = "S it. Zeros up to the last byte's end.", to = "A call that throws")
+@Part(name = "Terms: FAULTS", from = "Zeros up to the last byte's end.", to = "A call that throws")
 public final class TermFaultsTest {
     /** One block at QP 3, its mode's bit included: nine bits. */
     private static final String ONE = "11" + "00100" + "0" + "1";

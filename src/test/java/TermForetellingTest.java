@@ -1,7 +1,6 @@
 import java.util.function.IntPredicate;
 
-@Part(name = "Terms: FORETELLING", from = "of a block are 16, c(u, v) with u across and v down; in the order (u, v): "
-        + "00 10 01 02 11 20 30 21 12 03 13 22 31 32 23 33. QP is 0 .. 51.", to = "BACK: c times V")
+@Part(name = "Terms: FORETELLING", from = "QP is 0 .. 51.", to = "BACK: c times V")
 public final class TermForetellingTest {
     /**
      * The neighbours that each pixel is foretold from, mode by mode: M the corner, A to H above, I to L on the left.

@@ -1,5 +1,4 @@
-@Part(name = "Terms: SMOOTHING", from = "otherwise 8066 7490 6554 5825 5243 4559; F a third of 2^(15 + QP / 6), cut off.",
-        to = "THE BITS, of each byte")
+@Part(name = "Terms: SMOOTHING", from = "F a third of 2^(15 + QP / 6), cut off.", to = "THE BITS, of each byte")
 public final class TermSmoothingTest {
     public static void main(String[] args) {
         Check.run(TermSmoothingTest.class);

@@ -1,7 +1,7 @@
 import java.util.List;
 import java.util.function.Consumer;
 
-@Part(name = "Terms: what throws", from = "or one of them is 1 (at the first that is left).", to = "## Promise 1:")
+@Part(name = "Terms: what throws", from = "(at the first that is left).", to = "## Promise 1:")
 public final class TermThrowsTest {
     /** One call of each kind that may throw, for an object of two by two blocks. */
     private static final List<Consumer<IntraMill>> WRONG = List.of(
