@@ -61,7 +61,7 @@ final class Check {
 
     /** The words that the tests quote stand in the part just once, and they leave none of it over. */
     private static void compareQuotes(Part part, List<String> quotes) {
-        if (part == null || !Doc.isThere()) {
+        if (part == null || !Doc.isThere(part)) {
             return;
         }
         name(part.name());

@@ -3,20 +3,18 @@ import java.nio.file.Files;
 import java.nio.file.Path;
 import java.util.List;
 
-/** The document's text, to see that the tests quote it truly and leave no words of it without a test. */
+/** The text of a document, to see that the tests quote it truly and leave no words of it without a test. */
 final class Doc {
-    private static final Path PLACE = Path.of("..", "shared", "DOC.md");
-
     private Doc() {
     }
 
-    static boolean isThere() {
-        return Files.isReadable(PLACE);
+    static boolean isThere(Part part) {
+        return Files.isReadable(Path.of(part.file()));
     }
 
     /** The text of a part, with one space wherever there is white space. */
     static String textOf(Part part) {
-        String all = flat(read());
+        String all = flat(read(Path.of(part.file())));
         int from = all.indexOf(flat(part.from()));
         int to = all.indexOf(flat(part.to()), from + 1);
         return from < 0 || to < 0 ? "" : all.substring(from + flat(part.from()).length(), to);
@@ -43,9 +41,9 @@ final class Doc {
         return flat(new String(left)).trim();
     }
 
-    private static String read() {
+    private static String read(Path place) {
         try {
-            return Files.readString(PLACE);
+            return Files.readString(place);
         } catch (IOException e) {
             return "";
         }

@@ -1,17 +1,28 @@
 import java.lang.reflect.Constructor;
+import java.lang.reflect.Field;
 import java.lang.reflect.Member;
 import java.lang.reflect.Method;
 import java.lang.reflect.Modifier;
 import java.util.ArrayList;
-import java.util.Arrays;
 import java.util.List;
 
 @Part(name = "The public face", from = "## The public face ```java", to = "## Terms")
 public final class FaceTest {
     private static final String[] FACE = {
-        "NONE", "about(int)", "alter(int,int)", "begin(int,int)", "bits(int)", "block(int,int)", "end(int)",
-        "feed(int)", "foretold(int,int,int,int)", "pack(int,boolean)", "pixel(int,int)", "place()",
-        "put(int,int,int)", "unpack()"
+        "public int about(int) throws IllegalArgumentException",
+        "public int alter(int,int) throws IllegalArgumentException",
+        "public int bits(int)",
+        "public int block(int,int) throws IllegalArgumentException",
+        "public int feed(int) throws IllegalStateException",
+        "public int foretold(int,int,int,int) throws IllegalArgumentException",
+        "public int pack(int,boolean) throws IllegalArgumentException",
+        "public int pixel(int,int)",
+        "public int place()",
+        "public int unpack()",
+        "public static final int NONE",
+        "public void begin(int,int) throws IllegalArgumentException",
+        "public void end(int) throws IllegalArgumentException",
+        "public void put(int,int,int) throws IllegalArgumentException"
     };
 
     public static void main(String[] args) {
@@ -51,20 +62,19 @@ public final class FaceTest {
             + "public int about(int what) throws IllegalArgumentException; }")
     static void thereIsThisAndNoMore() {
         List<String> seen = new ArrayList<>();
-        for (var field : IntraMill.class.getDeclaredFields()) {
-            addIfSeen(seen, field, field.getName());
+        for (Field field : IntraMill.class.getDeclaredFields()) {
+            addIfSeen(seen, field);
         }
         for (Method method : IntraMill.class.getDeclaredMethods()) {
-            String types = Arrays.toString(method.getParameterTypes()).replaceAll("[\\[\\] ]", "");
-            addIfSeen(seen, method, method.getName() + "(" + types + ")");
+            addIfSeen(seen, method);
         }
         seen.sort(null);
-        Check.same("the face", seen.toString(), Arrays.toString(FACE));
+        Check.same("the face", String.join("\n", seen), String.join("\n", FACE));
     }
 
-    private static void addIfSeen(List<String> seen, Member member, String name) {
+    private static void addIfSeen(List<String> seen, Member member) {
         if (!Modifier.isPrivate(member.getModifiers()) && !member.isSynthetic()) {
-            seen.add(name);
+            seen.add(member.toString().replace("IntraMill.", "").replace("java.lang.", ""));
         }
     }
 }
